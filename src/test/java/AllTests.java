@@ -1,0 +1,24 @@
+/** Runs every test of the project; ends with exit code 1 if an answer is not as due. */
+public final class AllTests {
+    private AllTests() {
+    }
+
+    public static void main(String[] args) throws Exception {
+        RecordingTests.runAll();
+        QueryTests.runAll();
+        PlayerTests.runAll();
+        CorrectionTests.runAll();
+        ForecastTests.runAll();
+        OrderTextTests.runAll();
+        UndoTests.runAll();
+        FaceTests.runAll();
+        if (args.length > 0) {
+            LanguageTests.runAll(args[0]);
+        }
+        ModelTests.runAll();
+        System.out.println(Check.done() + " checks of the project, " + Check.wrong() + " wrong");
+        if (Check.wrong() != 0) {
+            System.exit(1);
+        }
+    }
+}
