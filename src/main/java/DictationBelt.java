@@ -345,9 +345,10 @@ public final class DictationBelt {
         int letter = NONE;
         int times = 0;
         int number = 0;
+        int end = Math.min(text.length, LONGEST_TEXT);
         // One step beyond the text: its end closes the last order as a ";" would.
-        for (int i = 0; i <= text.length; i++) {
-            int code = i < text.length ? valueAt(text.codes, i) : ';';
+        for (int i = 0; i <= end; i++) {
+            int code = i < end ? valueAt(text.codes, i) : ';';
             if (code == ';') {
                 if (!mayObey(letter, times, number)) {
                     return executed;

@@ -19,6 +19,7 @@ import com.sun.source.util.JavacTask;
 import com.sun.source.util.SourcePositions;
 import com.sun.source.util.TreeScanner;
 import com.sun.source.util.Trees;
+import java.util.ArrayList;
 import java.util.List;
 import java.util.Map;
 import java.util.Set;
@@ -30,7 +31,7 @@ import javax.tools.ToolProvider;
 
 /** What LANGUAGE.md rules out and can be seen in the source: the narrow part that the class uses. */
 final class LanguageTests extends TreeScanner<Void, Void> {
-    private static final Set<String> LIBRARY = Set.of("System.arraycopy", "Math.max");
+    private static final Set<String> LIBRARY = Set.of("System.arraycopy", "Math.max", "Math.min");
     private static final Set<String> MADE = Set.of("State", "OrderText", "IllegalStateException",
             "IllegalArgumentException", "IndexOutOfBoundsException");
     private static final int LONGEST_METHOD = 60;
@@ -79,7 +80,7 @@ final class LanguageTests extends TreeScanner<Void, Void> {
         Check.holds(name + " is no recursion", !open.contains(name));
         int below = 0;
         if (!open.contains(name)) {
-            List<String> here = new java.util.ArrayList<>(open);
+            List<String> here = new ArrayList<>(open);
             here.add(name);
             for (String called : calls.getOrDefault(name, Set.of())) {
                 below = Math.max(below, calls.containsKey(called) ? depth(called, here) : 0);

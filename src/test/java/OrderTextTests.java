@@ -215,10 +215,14 @@ final class OrderTextTests {
         stops(belt, "r13=3", 0);
         Check.same("spoken() if too many", belt.spoken(), 20);
         Check.same("head() if too many", belt.head(), 20);
-        stops(belt, "r12=3;s1", 1);
+        stops(belt, "r11=3;s3;s1", 2);
         Check.same("spoken() of as many as possible", belt.spoken(), 32);
         Check.same("room()", belt.room(), 0);
         stops(belt, "r1=1", 0);
+        belt.undo();
+        belt.undo();
+        stops(belt, "r12=3;r1=1;h", 1);
+        Check.same("running() after it stops", belt.running(), 1);
         DictationBelt losers = Belts.after("b;r10=1;b;r10=2;b");
         stops(losers, "r32=3", 1);
         Check.same("recordings() after r32", losers.recordings(), 1);

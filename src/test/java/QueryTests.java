@@ -85,6 +85,29 @@ final class QueryTests {
         Check.refuses("lost(-1)", belt, INDEX, () -> belt.lost(-1));
         belt.erase(0);
         Check.same("lost(0), of the one behind", belt.lost(0), 0);
+        lostGoesWithItsRecording();
+    }
+
+    private static void lostGoesWithItsRecording() {
+        DictationBelt belt = Belts.after("b;s1;b;r3=2;b;r4=3;b;r5=4;h");
+        belt.moveHead(1);
+        Belts.run(belt, "b;r1=5;h");
+        belt.moveHead(4);
+        Belts.run(belt, "b;r2=5;h");
+        belt.moveHead(8);
+        Belts.run(belt, "b;r3=5;h");
+        belt.erase(0);
+        Check.same("lost(0)", belt.lost(0), 1);
+        Check.same("lost(1)", belt.lost(1), 2);
+        Check.same("lost(2)", belt.lost(2), 3);
+        Check.same("lost(3)", belt.lost(3), 0);
+        belt.moveHead(2);
+        Belts.run(belt, "b;r2=6");
+        Check.same("lost(0) behind one that is gone", belt.lost(0), 2);
+        Check.same("lost(1) behind one that is gone", belt.lost(1), 3);
+        belt.undo();
+        Check.same("lost(0) after undo()", belt.lost(0), 1);
+        Check.same("lost(2) after undo()", belt.lost(2), 3);
     }
 
     private static void promise16Owner() {

@@ -8,6 +8,7 @@ final class RecordingTests {
         promise2Begin();
         promise2BeginEndsARunningOne();
         promise2BeginWithTen();
+        promise2BeginStartsAnew();
         promise3Halt();
         promise3HaltOfAnEmptyOne();
         promise4Speak();
@@ -83,6 +84,21 @@ final class RecordingTests {
         Check.same("begin() as the tenth again", belt.begin(), 9);
         Check.same("recordings()", belt.recordings(), 10);
         Check.same("the new one's flag", belt.hasFlag(9), false);
+    }
+
+    private static void promise2BeginStartsAnew() {
+        DictationBelt belt = Belts.after("b;s1;b;s2;s3;s4;h");
+        belt.moveHead(1);
+        Belts.run(belt, "b;s5;s6");
+        Check.same("lost(1)", belt.lost(1), 2);
+        belt.erase(2);
+        belt.erase(1);
+        Check.same("begin() where one was erased", belt.begin(), 1);
+        Check.same("lost() of the new one", belt.lost(1), 0);
+        DictationBelt full = Belts.after("b;r32=1;h");
+        Check.same("begin() on a full belt", full.begin(), 1);
+        Check.same("recordings()", full.recordings(), 2);
+        Check.same("running()", full.running(), 1);
     }
 
     private static void promise3Halt() {
@@ -171,7 +187,8 @@ final class RecordingTests {
     }
 
     private static void promise4SpeakOnAFullBelt() {
-        DictationBelt belt = Belts.after("b;r32=1");
+        DictationBelt belt = Belts.after("b;r31=1");
+        Check.same("speak(1) on the last writable cell", belt.speak(1), 31);
         Check.same("head()", belt.head(), 0);
         Class<?> state = IllegalStateException.class;
         Check.refuses("speak(1), full by itself", belt, state, () -> belt.speak(1));
@@ -237,6 +254,11 @@ final class RecordingTests {
         belt.begin();
         Check.same("erase(0), without cells", belt.erase(0), 0);
         Check.same("running()", belt.running(), -1);
+        belt = Belts.after("b;s1;b;s2;s3");
+        Check.same("erase(1), the running one of two", belt.erase(1), 2);
+        Check.same("running()", belt.running(), -1);
+        Check.same("recordings()", belt.recordings(), 1);
+        Check.same("moveHead() with none running", belt.moveHead(7), 3);
         DictationBelt flagged = Belts.after("b;f0");
         Check.refuses("erase(0), running with a flag", flagged, IllegalStateException.class,
                 () -> flagged.erase(0));

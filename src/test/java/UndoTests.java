@@ -59,18 +59,25 @@ final class UndoTests {
     }
 
     private static void promise38SavedStates() {
+        for (int calls = 0; calls <= 31; calls++) {
+            savedStatesAfter(calls);
+        }
+    }
+
+    private static void savedStatesAfter(int calls) {
         DictationBelt belt = new DictationBelt();
-        for (int call = 1; call <= 20; call++) {
+        for (int call = 1; call <= calls; call++) {
             belt.moveHead(call);
             Check.same("savedStates()", belt.savedStates(), Math.min(call, 6));
         }
-        for (int left = 5; left >= 0; left--) {
+        int kept = Math.min(calls, 6);
+        for (int left = kept - 1; left >= 0; left--) {
             Check.same("undo()", belt.undo(), left);
-            Check.same("head() after undo()", belt.head(), 14 + left);
+            Check.same("head() after undo()", belt.head(), calls - kept + left);
             Check.same("savedStates()", belt.savedStates(), left);
         }
         Check.refuses("undo() of a discarded one", belt, IllegalStateException.class, belt::undo);
-        belt.moveHead(14);
+        belt.moveHead(belt.head());
         Check.same("savedStates() without a change", belt.savedStates(), 1);
     }
 
