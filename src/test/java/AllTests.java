@@ -11,6 +11,13 @@ public final class AllTests {
         ForecastTests.runAll();
         OrderTextTests.runAll();
         UndoTests.runAll();
+        TermEdges.runAll();
+        RecordingEdges.runAll();
+        QueryEdges.runAll();
+        PlayerEdges.runAll();
+        ForecastEdges.runAll();
+        TextEdges.runAll();
+        UndoEdges.runAll();
         FaceTests.runAll();
         if (args.length > 0) {
             LanguageTests.runAll(args[0]);

@@ -15,14 +15,21 @@ final class Belts {
         return belt.run();
     }
 
-    /** A new belt on which orders are run, each text to its end. */
+    /** A new belt on which orders are run, each text to its end; "@" and a cell moves the head. */
     static DictationBelt after(String... texts) {
         DictationBelt belt = new DictationBelt();
-        for (String text : texts) {
-            int orders = text.split(";").length;
-            Check.same("run() of " + text, run(belt, text), orders);
-        }
+        then(belt, texts);
         return belt;
+    }
+
+    static void then(DictationBelt belt, String... texts) {
+        for (String text : texts) {
+            if (text.charAt(0) == '@') {
+                belt.moveHead(Integer.parseInt(text.substring(1)));
+            } else {
+                Check.same("run() of " + text, run(belt, text), text.split(";").length);
+            }
+        }
     }
 
     /** Ten recordings of one cell each; the last one is running. */

@@ -3,6 +3,7 @@ final class Check {
     private static final int MOST_PRINTED = 40;
     private static int wrong = 0;
     private static int done = 0;
+    private static String about = "";
 
     private Check() {
     }
@@ -13,6 +14,11 @@ final class Check {
 
     static int done() {
         return done;
+    }
+
+    /** What the checks are about from now on; it is printed with a wrong answer. */
+    static void setAbout(String sentence) {
+        about = sentence;
     }
 
     static void same(String what, long got, long due) {
@@ -36,7 +42,7 @@ final class Check {
         if (!isSo) {
             wrong++;
             if (wrong <= MOST_PRINTED) {
-                System.out.println("wrong: " + what);
+                System.out.println("wrong: " + (about.isEmpty() ? "" : "[" + about + "] ") + what);
             }
         }
     }

@@ -130,9 +130,8 @@ final class OrderTextTests {
     }
 
     private static void nextIsOneOf(String beginning, String allowed) {
-        DictationBelt belt = new DictationBelt();
         for (int code = 33; code <= 126; code++) {
-            belt.clearText();
+            DictationBelt belt = new DictationBelt();
             Belts.write(belt, beginning);
             belt.append(code);
             int due = beginning.length() + (allowed.indexOf(code) >= 0 ? 1 : 0);
