@@ -22,6 +22,7 @@ public final class AllTests {
         if (args.length > 0) {
             LanguageTests.runAll(args[0]);
         }
+        SweepTests.runAll();
         ModelTests.runAll();
         System.out.println(Check.done() + " checks of the project, " + Check.wrong() + " wrong");
         if (Check.wrong() != 0) {

@@ -114,7 +114,8 @@ final class ModelTests {
                 answer(belt, name, values), answer(model, name, values));
     }
 
-    private static String answer(Object asked, String name, Object... values) throws Exception {
+    /** What the call returns, or the name of what it throws. */
+    static String answer(Object asked, String name, Object... values) throws Exception {
         Class<?>[] types = new Class<?>[values.length];
         for (int i = 0; i < values.length; i++) {
             types[i] = values[i] instanceof Boolean ? boolean.class : int.class;

@@ -6,6 +6,11 @@ final class TermEdges {
     }
 
     static void runAll() {
+        beltAndRecording();
+        playerAndCorrections();
+    }
+
+    private static void beltAndRecording() {
         Edge.test("The belt has 32 cells, numbered from 0 to 31, and then from 0 again.",
                 TermEdges::cellsGoRound);
         Edge.test("A cell is free, or it contains a sound, which is a number from 0 to 99, and"
@@ -35,6 +40,9 @@ final class TermEdges {
                 TermEdges::stopsWithoutCells);
         Edge.test("The lost cells of a recording are those that it lost by speaking. (Erased"
                 + " recordings do not lose their cells in this sense.)", TermEdges::lostBySpeaking);
+    }
+
+    private static void playerAndCorrections() {
         Edge.test("The player is at a recording and at a place in it, or nowhere, which is so at"
                 + " first.", TermEdges::nowhereAtFirst);
         Edge.test("When the recording loses a cell before this place, the place decreases by 1;"
@@ -129,6 +137,21 @@ final class TermEdges {
                 Check.same("sound() after a loss", belt.sound(number, 0), sound);
             }
             Check.same("owner() of the spoken cell", belt.owner(lost), 8);
+        }
+        lossesGoWithTheirRecordings();
+    }
+
+    /** Eight recordings that have lost 1, 2, 3, 4 and no cells: the numbers go with them. */
+    private static void lossesGoWithTheirRecordings() {
+        int[] lost = {1, 2, 3, 4, 0, 0, 0, 0};
+        for (int erased = 0; erased < 8; erased++) {
+            DictationBelt belt = Belts.after("b;r5=0;b;r5=1;b;r5=2;b;r5=3;h", "@0", "b;s9;h", "@5",
+                    "b;r2=9;h", "@10", "b;r3=9;h", "@15", "b;r4=9;h");
+            belt.erase(erased);
+            for (int number = 0; number < 7; number++) {
+                Check.same("lost() after erase(" + erased + ")", belt.lost(number),
+                        lost[number < erased ? number : number + 1]);
+            }
         }
     }
 
@@ -327,21 +350,29 @@ final class TermEdges {
 
     /** Each of four cells is lost once for each place, on the belt's middle and over its end. */
     private static void lossRoundThePlace() {
-        int[] sounds = {11, 12, 13, 14};
         for (int first = 28; first <= 32; first++) {
             for (int place = 0; place <= 4; place++) {
                 for (int lost = 0; lost < 4; lost++) {
-                    DictationBelt belt = Belts.after("@" + first % 32, "b;s11;s12;s13;s14;h;g0");
-                    for (int played = 0; played < place; played++) {
-                        belt.play();
-                    }
-                    Belts.then(belt, "@" + (first + lost) % 32, "b;s9");
-                    Check.same("place()", belt.place(), lost < place ? place - 1 : place);
-                    int next = lost == place ? place + 1 : place;
-                    Check.same("play()", belt.play(), next < 4 ? sounds[next] : -1);
+                    String move = "@" + first % 32;
+                    String lose = "@" + (first + lost) % 32;
+                    lossAt(Belts.after(move, "b;s11;s12;s13;s14;h;g0"), lose, place, lost);
+                    // With recordings that were written before and behind it, and lose nothing.
+                    lossAt(Belts.after("@6", "b;r3=1;h", move, "b;s11;s12;s13;s14;b;r3=2;h;g1"),
+                            lose, place, lost);
                 }
             }
         }
+    }
+
+    private static void lossAt(DictationBelt belt, String lose, int place, int lost) {
+        int[] sounds = {11, 12, 13, 14};
+        for (int played = 0; played < place; played++) {
+            belt.play();
+        }
+        Belts.then(belt, lose, "b;s9");
+        Check.same("place()", belt.place(), lost < place ? place - 1 : place);
+        int next = lost == place ? place + 1 : place;
+        Check.same("play()", belt.play(), next < 4 ? sounds[next] : -1);
     }
 
     private static void isNowhere(String how, DictationBelt belt) {

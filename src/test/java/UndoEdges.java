@@ -4,6 +4,8 @@ final class UndoEdges {
     }
 
     static void runAll() {
+        Edge.test("An object is used for at most 512 calls after it has been made;",
+                UndoEdges::calls512);
         Edge.test("The state consists of everything except the buffer and the saved states.",
                 UndoEdges::everythingIsRestored);
         Edge.test("Each method that is marked \"Undoable\" saves the state from before the call if"
@@ -33,6 +35,25 @@ final class UndoEdges {
         DictationBelt belt = Belts.after("b;s1;b;s2;s3;s4;b;s5;f2;h;g1;p;p", "@0", "b;s6;s7");
         belt.correct(0, 0, 40);
         return belt;
+    }
+
+    /** The 512th call answers as the first ones do. */
+    private static void calls512() {
+        DictationBelt moved = new DictationBelt();
+        for (int call = 1; call <= 511; call++) {
+            Check.same("moveHead()", moved.moveHead(call % 32), (call - 1) % 32);
+        }
+        Check.same("undo() as the 512th call", moved.undo(), 5);
+        DictationBelt spoken = new DictationBelt();
+        for (int round = 0; round < 15; round++) {
+            Check.same("begin()", spoken.begin(), Math.min(round, 1));
+            for (int sound = 0; sound < 32; sound++) {
+                Check.same("speak()", spoken.speak(sound), sound);
+            }
+        }
+        Check.same("gone() as the 496th call", spoken.gone(), 14);
+        Check.same("spoken() as the 497th call", spoken.spoken(), 480);
+        Check.same("lost(0)", spoken.lost(0), 0);
     }
 
     private static void everythingIsRestored() {
