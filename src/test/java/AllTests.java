@@ -18,9 +18,13 @@ public final class AllTests {
         ForecastEdges.runAll();
         TextEdges.runAll();
         UndoEdges.runAll();
+        SentenceTests.runAll();
+        ParameterTests.runAll();
+        ReadmeTests.runAll();
         FaceTests.runAll();
-        if (args.length > 0) {
+        if (args.length > 1) {
             LanguageTests.runAll(args[0]);
+            DocumentTests.runAll(args[1], args[0]);
         }
         SweepTests.runAll();
         ModelTests.runAll();

@@ -1,19 +1,28 @@
+import java.util.ArrayList;
+import java.util.List;
 import java.util.function.Consumer;
 import java.util.function.Supplier;
 
-/** The form of a test of one sentence of the document that names a boundary. */
+/** The form of a test of one sentence of the document. */
 final class Edge {
     static final Class<?> INDEX = IndexOutOfBoundsException.class;
     static final Class<?> RANGE = IllegalArgumentException.class;
     static final Class<?> STATE = IllegalStateException.class;
     static final int MIN = Integer.MIN_VALUE;
     static final int MAX = Integer.MAX_VALUE;
+    private static final List<String> SENTENCES = new ArrayList<>();
 
     private Edge() {
     }
 
+    /** What the tests have quoted so far. */
+    static List<String> sentences() {
+        return SENTENCES;
+    }
+
     /** The test belongs to the sentence alone; what it finds wrong is printed with it. */
     static void test(String sentence, Runnable test) {
+        SENTENCES.add(sentence);
         Check.setAbout(sentence);
         int before = Check.done();
         try {
@@ -71,7 +80,8 @@ final class Edge {
         return belt;
     }
 
-    private static String thrownBy(DictationBelt belt, Consumer<DictationBelt> call) {
+    /** The short name of what the call throws, "nothing" if it returns. */
+    static String thrownBy(DictationBelt belt, Consumer<DictationBelt> call) {
         try {
             call.accept(belt);
         } catch (RuntimeException e) {

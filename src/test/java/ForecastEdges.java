@@ -142,7 +142,8 @@ final class ForecastEdges {
         }
     }
 
-    private static int cellsThatAreLost(DictationBelt belt, int number, int sounds) {
+    /** How many cells the recording loses while so many sounds, or as many as possible, are spoken. */
+    static int cellsThatAreLost(DictationBelt belt, int number, int sounds) {
         boolean[] isIts = new boolean[32];
         for (int place = 0; place < belt.length(number); place++) {
             isIts[belt.cellOf(number, place)] = true;

@@ -29,8 +29,9 @@ final class TermEdges {
                 + " one is running, without cells and without a flag.", TermEdges::beginStops);
         Edge.test("A cell is writable if it is free, or belongs to a recording that has no flag"
                 + " and is not running.", TermEdges::writableCells);
-        Edge.test("from the cell of the head on, going on cell by cell (and round the belt), the"
-                + " first writable cell is found.", TermEdges::firstWritableFromEachHead);
+        Edge.test("To speak a sound means: from the cell of the head on, going on cell by cell (and"
+                + " round the belt), the first writable cell is found.",
+                TermEdges::firstWritableFromEachHead);
         Edge.test("If it belongs to a recording, this recording loses it; a recording that has"
                 + " lost its last cell goes away.", TermEdges::lastCellLost);
         Edge.test("The cell then contains the sound, as the last cell of the running recording,"

@@ -4,8 +4,8 @@ final class UndoEdges {
     }
 
     static void runAll() {
-        Edge.test("An object is used for at most 512 calls after it has been made;",
-                UndoEdges::calls512);
+        Edge.test("An object is used for at most 512 calls after it has been made; what later calls"
+                + " answer is free.", UndoEdges::calls512);
         Edge.test("The state consists of everything except the buffer and the saved states.",
                 UndoEdges::everythingIsRestored);
         Edge.test("Each method that is marked \"Undoable\" saves the state from before the call if"
@@ -54,6 +54,14 @@ final class UndoEdges {
         Check.same("gone() as the 496th call", spoken.gone(), 14);
         Check.same("spoken() as the 497th call", spoken.spoken(), 480);
         Check.same("lost(0)", spoken.lost(0), 0);
+        // What comes later is free, but LANGUAGE.md lets no call throw by itself, nor fail to end.
+        for (int later = 0; later < 2000; later++) {
+            spoken.begin();
+            spoken.speak(later % 100);
+            Check.same("undo() long after", Edge.thrownBy(spoken, DictationBelt::undo), "nothing");
+            Check.same("speak(100) long after", Edge.thrownBy(spoken, belt -> belt.speak(100)),
+                    "IllegalArgumentException");
+        }
     }
 
     private static void everythingIsRestored() {
@@ -309,7 +317,7 @@ final class UndoEdges {
     }
 
     /** The hash of the document, of what the other calls tell. */
-    private static long dueDigest(DictationBelt belt) {
+    static long dueDigest(DictationBelt belt) {
         long due = 4444;
         int[] first = {belt.recordings(), belt.running(), belt.head(), belt.free(), belt.spoken(),
             belt.gone(), belt.playing(), belt.place(), belt.corrected(), belt.room(),
