@@ -7,6 +7,19 @@ import java.util.function.Consumer;
 /** The sentences of the document that name no boundary: what things mean and what calls do. */
 final class SentenceTests {
     private static final int LONGEST_TEXT = 60;
+    /** Belts on which none is running, with one recording to nine, and with flags. */
+    private static final String[][] STOPPED = {
+        {"b;s1;h"},
+        {"b;s1;h;f0"},
+        {"b;r32=1;h"},
+        {"b;r32=1;h", "@13"},
+        {"b;r4=1;b;r5=2;f1;b;r6=3;h"},
+        {"b;r4=1;b;r5=2;f1;b;r6=3;h", "@2"},
+        {"b;r16=1;f0;b;r16=2;h", "@5"},
+        {"@30", "b;r4=1;f0;b;r9=2;h", "@31", "b;s3;h"},
+        {"b;s0;b;s1;b;s2;b;s3;b;s4;b;s5;b;s6;b;s7;b;s8;h", "@4"},
+        {"b;r10=1;b;r10=2;b;r10=3;h;f1", "@25", "b;r9=4;h", "@6"},
+    };
 
     private SentenceTests() {
     }
@@ -289,20 +302,6 @@ final class SentenceTests {
             }
         }
     }
-
-    /** Belts on which none is running, with one recording to nine, and with flags. */
-    private static final String[][] STOPPED = {
-        {"b;s1;h"},
-        {"b;s1;h;f0"},
-        {"b;r32=1;h"},
-        {"b;r32=1;h", "@13"},
-        {"b;r4=1;b;r5=2;f1;b;r6=3;h"},
-        {"b;r4=1;b;r5=2;f1;b;r6=3;h", "@2"},
-        {"b;r16=1;f0;b;r16=2;h", "@5"},
-        {"@30", "b;r4=1;f0;b;r9=2;h", "@31", "b;s3;h"},
-        {"b;s0;b;s1;b;s2;b;s3;b;s4;b;s5;b;s6;b;s7;b;s8;h", "@4"},
-        {"b;r10=1;b;r10=2;b;r10=3;h;f1", "@25", "b;r9=4;h", "@6"},
-    };
 
     private static void losesNext() {
         for (String[] texts : STOPPED) {

@@ -458,6 +458,11 @@ final class TextEdges {
                 Check.same("run() of the rest", belt.run(), 13);
             }
         }
+        // An error stays one, whatever order texts stand behind it.
+        for (String text : new String[] {"x;b", "xb", "!!b", "b;x;h", "bx;h", "b!!b", ";;b", "b;;;b",
+            "s100;b", "s01;b", "r33=1;b", "r1=;b", "k0;b", "f10;b", "~~~~b;h"}) {
+            refusesRun(text);
+        }
         refusesRun("x");
         refusesRun("b;x");
         refusesRun("bx");

@@ -87,6 +87,46 @@ final class UndoEdges {
         Check.same("spoken()", belt.spoken(), 7);
         Check.same("gone()", belt.gone(), 1);
         Check.same("clearText(), the buffer is not restored", belt.clearText(), 2);
+        allCellsAreRestored();
+    }
+
+    /** Each of the 32 cells has its own sound and carbon, and the recordings lie across. */
+    private static void allCellsAreRestored() {
+        DictationBelt belt = Belts.after("@17", "b");
+        for (int cell = 0; cell < 32; cell++) {
+            belt.speak(cell);
+            if (cell == 9 || cell == 20) {
+                belt.begin();
+            }
+        }
+        for (int cell = 0; cell < 32; cell++) {
+            int number = cell < 10 ? 0 : cell < 21 ? 1 : 2;
+            belt.correct(number, cell - new int[] {0, 10, 21}[number], 99 - cell);
+        }
+        belt.halt();
+        String before = told(belt);
+        Belts.then(belt, "b;r32=50");
+        Check.same("length() of what wrote over all", belt.length(0), 32);
+        belt.undo();
+        Check.same("all cells after undo()", told(belt), before);
+        Belts.then(belt, "e2;e0;e0");
+        belt.undo();
+        Check.same("all cells after undo() of erase()", told(belt), before);
+    }
+
+    private static String told(DictationBelt belt) {
+        StringBuilder all = new StringBuilder();
+        for (int number = 0; number < belt.recordings(); number++) {
+            all.append(Belts.cells(belt, number)).append(": ");
+            all.append(Belts.sounds(belt, number)).append(": ");
+            for (int place = 0; place < belt.length(number); place++) {
+                all.append(belt.carbon(number, place)).append(' ');
+            }
+        }
+        for (int cell = 0; cell < 32; cell++) {
+            all.append(belt.owner(cell)).append(' ');
+        }
+        return all.toString();
     }
 
     private static void undoableOnesSave() {
